@@ -158,8 +158,9 @@ public final class Taperhall {
         if (athletes.size() >= MOST_ATHLETES) {
             throw new IllegalStateException();
         }
-        athletes.add(new Athlete(squad, priority, new Body(base, formPace, fatiguePace)));
-        return athletes.size() - 1;
+        int number = athletes.size();
+        athletes.add(new Athlete(number, squad, priority, new Body(base, formPace, fatiguePace)));
+        return number;
     }
 
     public int answers(int athlete, int gain, int cost, int tolerance)
@@ -611,41 +612,38 @@ public final class Taperhall {
 
     private void goThroughDay() {
         for (int number = 0; number < athletes.size(); number++) {
-            train(number);
+            train(athletes.get(number));
         }
         for (int number = 0; number < athletes.size(); number++) {
             recover(athletes.get(number));
         }
         for (int number = 0; number < athletes.size(); number++) {
-            mayCatch(number);
+            mayCatch(athletes.get(number));
         }
         today++;
     }
 
-    private void train(int number) {
-        if (number < 0 || number >= athletes.size()) {
-            return;
-        }
-        Athlete one = athletes.get(number);
+    private void train(Athlete one) {
         char letter = one.diary.letterOn(today);
         int done = 0;
         if (letter != REST) {
-            done = book.feltOf(letter);
             if (!one.body.canTrainOn(today)) {
-                done = 0;
                 one.log.keep('i', today);
-            } else if (book.isHard(letter) && rivalsForLane(number) >= lanes) {
-                done = done / 2;
+            } else if (wantsLane(one) && countAheadOf(one) >= lanes) {
+                done = book.feltOf(letter) / 2;
                 one.log.keep('h', today);
+            } else {
+                done = book.feltOf(letter);
             }
         }
         one.diary.write(today, done, one.body.isBackOn(today) ? one.body.backLoad : done);
     }
 
-    private int rivalsForLane(int number) {
+    private int countAheadOf(Athlete one) {
         int ahead = 0;
-        for (int other = 0; other < athletes.size(); other++) {
-            if (wantsLane(athletes.get(other)) && goesAhead(other, number)) {
+        for (int number = 0; number < athletes.size(); number++) {
+            Athlete other = athletes.get(number);
+            if (wantsLane(other) && goesAhead(other, one)) {
                 ahead++;
             }
         }
@@ -656,13 +654,11 @@ public final class Taperhall {
         return one.body.canTrainOn(today) && book.isHard(one.diary.letterOn(today));
     }
 
-    private boolean goesAhead(int other, int number) {
-        if (other < 0 || other >= athletes.size() || number < 0 || number >= athletes.size()) {
-            return false;
+    private static boolean goesAhead(Athlete other, Athlete one) {
+        if (other.priority == one.priority) {
+            return other.number < one.number;
         }
-        int theirs = athletes.get(other).priority;
-        int own = athletes.get(number).priority;
-        return theirs > own || theirs == own && other < number;
+        return other.priority > one.priority;
     }
 
     private void recover(Athlete one) {
@@ -672,11 +668,7 @@ public final class Taperhall {
         }
     }
 
-    private void mayCatch(int number) {
-        if (number < 0 || number >= athletes.size()) {
-            return;
-        }
-        Athlete one = athletes.get(number);
+    private void mayCatch(Athlete one) {
         if (one.body.isIllOn(today) || !isSquadIll(one.squad)) {
             return;
         }
@@ -725,28 +717,33 @@ public final class Taperhall {
         }
     }
 
+    /** Answers -1 if fewer qualified. */
     private int qualifiedAt(int rank) {
         for (int number = 0; number < athletes.size(); number++) {
-            if (athletes.get(number).qualified && betterThan(number) == rank) {
+            Athlete one = athletes.get(number);
+            if (one.qualified && countBetterThan(one) == rank) {
                 return number;
             }
         }
         return -1;
     }
 
-    private int betterThan(int number) {
-        if (number < 0 || number >= athletes.size()) {
-            return 0;
-        }
-        int own = athletes.get(number).best;
+    private int countBetterThan(Athlete one) {
         int better = 0;
-        for (int other = 0; other < athletes.size(); other++) {
-            Athlete one = athletes.get(other);
-            if (one.qualified && (one.best > own || one.best == own && other < number)) {
+        for (int number = 0; number < athletes.size(); number++) {
+            Athlete other = athletes.get(number);
+            if (other.qualified && isBetter(other, one)) {
                 better++;
             }
         }
         return better;
+    }
+
+    private static boolean isBetter(Athlete other, Athlete one) {
+        if (other.best == one.best) {
+            return other.number < one.number;
+        }
+        return other.best > one.best;
     }
 
     private void searchTaper(Athlete one, int day, int days) {
@@ -888,24 +885,36 @@ public final class Taperhall {
         /** Answers one day more than there may be for all plans that are too long: their days do not matter. */
         private int unfold() {
             int depth = 0;
+            int count = 1;
             unfolded = 0;
             for (int place = 0; place < length && place < typed.length; place++) {
                 char sign = typed[place];
-                if (sign == '(') {
-                    depth = Math.min(depth + 1, DEEPEST);
-                    starts[depth] = unfolded;
+                if (isCount(sign)) {
+                    count = sign - '0';
+                } else if (sign == '(') {
+                    depth++;
+                    open(depth, count);
                 } else if (sign == ')') {
-                    if (depth > 0 && depth <= DEEPEST) {
-                        repeat(starts[depth], times[depth]);
-                        depth--;
-                    }
-                } else if (isCount(sign)) {
-                    times[Math.min(depth + 1, DEEPEST)] = sign - '0';
+                    close(depth);
+                    depth--;
                 } else {
                     addDay(sign);
                 }
             }
             return unfolded;
+        }
+
+        private void open(int depth, int count) {
+            if (depth >= 0 && depth < starts.length && depth < times.length) {
+                starts[depth] = unfolded;
+                times[depth] = count;
+            }
+        }
+
+        private void close(int depth) {
+            if (depth >= 0 && depth < starts.length && depth < times.length) {
+                repeat(starts[depth], times[depth]);
+            }
         }
 
         private void repeat(int start, int count) {
@@ -1032,7 +1041,7 @@ public final class Taperhall {
         }
 
         private boolean canTrainOn(int day) {
-            return isFitOn(day) && !isBackOn(day);
+            return step == 0 && backDay != day && !isIllOn(day);
         }
 
         private int tryStep(int day, int load) {
@@ -1236,14 +1245,24 @@ public final class Taperhall {
         private void compare(Diary diary) {
             int next = 0;
             for (int day = 0; day < DAYS; day++) {
-                while (next < tests && next < left.length && days[next] == day) {
-                    left[next] = told[next] - thought.level();
+                while (next < tests && isTestOf(next, day)) {
+                    leave(next, thought.level());
                     next++;
                 }
                 if (next >= tests) {
                     return;
                 }
                 thought.live(diary.feltOn(day));
+            }
+        }
+
+        private boolean isTestOf(int test, int day) {
+            return test >= 0 && test < days.length && days[test] == day;
+        }
+
+        private void leave(int test, int level) {
+            if (test >= 0 && test < told.length && test < left.length) {
+                left[test] = told[test] - level;
             }
         }
 
@@ -1305,6 +1324,7 @@ public final class Taperhall {
 
     /** An athlete, with all that is kept of one. */
     private static final class Athlete {
+        private final int number;
         private final int squad;
         private final int priority;
         private final Body body;
@@ -1316,7 +1336,8 @@ public final class Taperhall {
         private boolean qualified;
         private int best;
 
-        private Athlete(int squad, int priority, Body body) {
+        private Athlete(int number, int squad, int priority, Body body) {
+            this.number = number;
             this.squad = squad;
             this.priority = priority;
             this.body = body;

@@ -7,6 +7,7 @@ public final class AthletesTest {
 
     public static void main(String[] args) {
         athlete();
+        athleteAtFirst();
         athleteOfMost();
         athleteLater();
         answers();
@@ -30,6 +31,20 @@ public final class AthletesTest {
                 () -> hall.athlete(w[0], w[1], w[2], w[3], w[4]));
         }
         check.failsIndex("10: a third", hall, () -> hall.changes(2));
+    }
+
+    private static void athleteAtFirst() {
+        Taperhall hall = new Taperhall();
+        hall.session();
+        for (int set = 0; set < 6; set++) {
+            hall.set('a', 5, 60, 0);
+        }
+        hall.athlete(0, 0, 0, 20, 3);
+        Halls.plan(hall, 0, 0, "a");
+        hall.pass(1);
+        check.same("10: a gain of 1", hall.body(0, 'f'), 990 - 49);
+        check.same("10: a cost of 1", hall.body(0, 'g'), 990 - 330);
+        check.same("10: a tolerance of 200", hall.body(0, 'd'), 790 - 98);
     }
 
     private static void athleteOfMost() {

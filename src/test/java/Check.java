@@ -33,14 +33,17 @@ final class Check {
         told(what, got, "false", "true");
     }
 
-    /** The call throws just that exception, and leaves the hall as it was. */
+    /**
+     * The call throws just that exception, and leaves the hall as it was. What the machine throws by itself bears a
+     * message, and what the class throws does not.
+     */
     void fails(String what, Taperhall hall, Class<? extends RuntimeException> due, Call call) {
         String before = Readout.of(hall);
         String got;
         try {
             got = "the answer " + call.run();
         } catch (RuntimeException e) {
-            got = e.getClass().getName();
+            got = e.getClass().getName() + (e.getMessage() == null ? "" : ": " + e.getMessage());
         }
         told(what, got.equals(due.getName()), got, due.getName());
         sameText(what + " leaves the hall as it was", Readout.of(hall), before);

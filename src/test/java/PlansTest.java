@@ -141,6 +141,15 @@ public final class PlansTest {
         check.sameText("14: the days at last", Halls.days(hall, 0, 0, 19), ".........a..b..c.b.");
         check.same("14: nothing to shift", hall.shift(0, 30, 3), 0);
         check.sameText("14: a change all the same", Halls.changes(hall, 0), "a0 s1 s4 s0 s30");
+        Halls.athlete(hall, 0, 0);
+        Halls.plan(hall, 1, 0, "cab");
+        check.same("14: of one athlete alone", hall.shift(0, 9, 1), 4);
+        check.sameText("14: what is ahead stays", Halls.days(hall, 0, 0, 19), "..........a..b..c.b");
+        check.sameText("14: what is planned for the other one", Halls.days(hall, 1, 0, 5), "cab..");
+        Taperhall other = new Taperhall();
+        Halls.athlete(other, 0, 0);
+        other.shift(0, 5, 1);
+        check.sameText("14: of a new hall", Halls.days(other, 0, 0, 240), ".".repeat(240));
     }
 
     private static void shiftRanges() {
@@ -182,6 +191,8 @@ public final class PlansTest {
         Halls.plan(hall, 0, 0, "ab.c");
         check.sameChar("15: the letter", hall.drop(0, 1), 'b');
         check.sameText("15: the days", Halls.days(hall, 0, 0, 5), "a..c.");
+        check.sameChar("15: the first day", hall.drop(0, 0), 'a');
+        check.sameText("15: the days again", Halls.days(hall, 0, 0, 5), "...c.");
         check.failsElement("15: dropped", hall, () -> hall.drop(0, 1));
         check.failsElement("15: a rest", hall, () -> hall.drop(0, 2));
         check.failsElement("15: the last day", hall, () -> hall.drop(0, 239));

@@ -177,7 +177,8 @@ public final class RandomRunsTest {
         try {
             return String.valueOf(method.invoke(on, arguments));
         } catch (InvocationTargetException e) {
-            return "throws " + e.getCause().getClass().getName();
+            String message = on instanceof Taperhall ? e.getCause().getMessage() : null;
+            return "throws " + e.getCause().getClass().getName() + (message == null ? "" : " of the machine: " + message);
         } catch (IllegalAccessException e) {
             throw new IllegalStateException(e);
         }

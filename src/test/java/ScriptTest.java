@@ -77,6 +77,9 @@ public final class ScriptTest {
         faultIs(hall, ".)", 1);
         faultIs(hall, "2(", 2);
         faultIs(hall, "2()", 2);
+        faultIs(hall, ".2()", 3);
+        faultIs(hall, "2(.2())", 5);
+        faultIs(hall, "2(.)2()", 6);
         faultIs(hall, "2(.", 3);
         faultIs(hall, "2(.)", -1);
         faultIs(hall, "2(.))", 4);

@@ -121,8 +121,8 @@ public final class TaperTest {
                         }
                     }
                     Object[] due = search(loads, 0, form, fatigue, how);
-                    check.same("38: day " + day + " days " + days, hall.taper(0, day, days), 200 + (long) due[0]);
                     check.sameText("39: day " + day + " days " + days, choices(hall, 0, day, days), (String) due[1]);
+                    check.same("38: day " + day + " days " + days, hall.taper(0, day, days), 200 + (long) due[0]);
                 }
             }
         }
