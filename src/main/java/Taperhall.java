@@ -382,7 +382,6 @@ public final class Taperhall {
             UnsupportedOperationException, NoSuchElementException {
         Athlete one = known(athlete);
         needRange(day, today, LAST_DAY);
-        needAtLeast(rival, BEST_FIT);
         Fits fits = fitted(one);
         int index = knownFit(fits, rival);
         thought.begin(formPaceOf(index), fatiguePaceOf(index), one.body.trace);
@@ -426,8 +425,8 @@ public final class Taperhall {
 
     public int selected(int places, int index) throws IllegalArgumentException, NoSuchElementException {
         needRange(places, 1, 8);
-        needAtLeast(index, 0);
-        int chosen = index < places ? qualifiedAt(index) : -1;
+        needElement(index, places);
+        int chosen = qualifiedAt(index);
         if (chosen < 0) {
             throw new NoSuchElementException();
         }
@@ -447,7 +446,6 @@ public final class Taperhall {
             throws IndexOutOfBoundsException, IllegalArgumentException, NoSuchElementException {
         Athlete one = known(athlete);
         needTaper(day, days);
-        needAtLeast(index, 0);
         needElement(index, days);
         searchTaper(one, day, days);
         return tapering.bestChoice(index);
@@ -550,18 +548,13 @@ public final class Taperhall {
         }
     }
 
-    private static void needAtLeast(int number, int least) {
-        if (number < least) {
-            throw new IllegalArgumentException();
-        }
-    }
-
     private static void needUnit(char unit) {
         if (unit != 'm' && unit != 'r' && unit != 't') {
             throw new IllegalArgumentException();
         }
     }
 
+    /** An index below 0 names nothing, as one that is too large: "from 0" gives it no range of its own. */
     private static void needElement(int index, int size) {
         if (index < 0 || index >= size) {
             throw new NoSuchElementException();

@@ -74,6 +74,10 @@ public final class FitsTest {
             check.failsUnsupported("31: few, no such rival", hall, () -> hall.fit(0, 200, 'f'));
             check.failsUnsupported("32: few", hall, () -> hall.forecast(0, -1, 5));
             check.failsUnsupported("32: few, no such rival", hall, () -> hall.forecast(0, 200, 5));
+            for (int below : new int[] {-2, -14, Integer.MIN_VALUE}) {
+                check.failsUnsupported("31: few, rival " + below, hall, () -> hall.fit(0, below, 'f'));
+                check.failsUnsupported("32: few, rival " + below, hall, () -> hall.forecast(0, below, 5));
+            }
             hall.test(0);
         }
         check.same("30: all fits are alike", hall.rivals(0), 143);
@@ -91,15 +95,19 @@ public final class FitsTest {
         check.failsIndex("32: athlete -1", hall, () -> hall.forecast(-1, 0, 0));
         check.failsArgument("32: day -1", hall, () -> hall.forecast(0, 0, -1));
         check.failsArgument("32: day 240", hall, () -> hall.forecast(0, 0, 240));
-        check.failsArgument("32: rival -2", hall, () -> hall.forecast(0, -2, 0));
+        check.failsIndex("32: athlete 1, rival -2", hall, () -> hall.forecast(1, -2, 0));
+        check.failsArgument("32: day 240, rival -2", hall, () -> hall.forecast(0, -2, 240));
         for (int count = 0; count < 3; count++) {
             hall.test(0);
         }
         check.failsArgument("31: no such thing still", hall, () -> hall.fit(0, 0, 'F'));
         check.failsElement("31: rival 143", hall, () -> hall.fit(0, 143, 'f'));
-        check.failsElement("31: rival -2", hall, () -> hall.fit(0, -2, 'f'));
         check.failsElement("32: rival 143", hall, () -> hall.forecast(0, 143, 0));
-        check.failsArgument("32: rival -2 still", hall, () -> hall.forecast(0, -2, 0));
+        for (int below : new int[] {-2, -14, Integer.MIN_VALUE}) {
+            check.failsElement("31: rival " + below, hall, () -> hall.fit(0, below, 'f'));
+            check.failsElement("32: rival " + below, hall, () -> hall.forecast(0, below, 0));
+        }
+        check.failsArgument("32: day 240, rival -2 still", hall, () -> hall.forecast(0, -2, 240));
         check.same("31: rival 142", hall.fit(0, 142, 'f') * 100 + hall.fit(0, 142, 'g'), 6015);
     }
 

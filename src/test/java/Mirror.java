@@ -602,7 +602,6 @@ final class Mirror {
     long forecast(int athlete, int rival, int day) {
         One one = one(athlete);
         range(day, today, 239);
-        range(rival, -1, Integer.MAX_VALUE);
         long[] fit = rival(one, rival);
         List<Integer> loads = new ArrayList<>(one.felt);
         loads.addAll(loads(one, today, day));
@@ -639,7 +638,6 @@ final class Mirror {
 
     int selected(int places, int index) {
         range(places, 1, 8);
-        range(index, 0, Integer.MAX_VALUE);
         List<Integer> numbers = new ArrayList<>();
         for (int number = 0; number < all.size(); number++) {
             if (all.get(number).qualified) {
@@ -647,7 +645,7 @@ final class Mirror {
             }
         }
         numbers.sort(Comparator.comparing((Integer number) -> -best(number)));
-        if (index >= Math.min(places, numbers.size())) {
+        if (index < 0 || index >= Math.min(places, numbers.size())) {
             throw new NoSuchElementException();
         }
         return numbers.get(index);
@@ -699,8 +697,7 @@ final class Mirror {
 
     char taperAt(int athlete, int day, int days, int index) {
         String choices = bestTaper(one(athlete), day, days).choices();
-        range(index, 0, Integer.MAX_VALUE);
-        if (index >= choices.length()) {
+        if (index < 0 || index >= choices.length()) {
             throw new NoSuchElementException();
         }
         return choices.charAt(index);

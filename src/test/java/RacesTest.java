@@ -147,13 +147,16 @@ public final class RacesTest {
     private static void selectedRanges() {
         Taperhall hall = new Taperhall();
         check.failsElement("37: no athletes", hall, () -> hall.selected(8, 0));
+        check.failsElement("37: no athletes, index -1", hall, () -> hall.selected(1, -1));
         hall.athlete(0, 0, 700, 20, 3);
         check.failsElement("37: none qualified", hall, () -> hall.selected(1, 0));
         hall.race(0);
         check.same("37: one", hall.selected(8, 0), 0);
         check.failsArgument("37: 0 places", hall, () -> hall.selected(0, 0));
         check.failsArgument("37: 9 places", hall, () -> hall.selected(9, 0));
-        check.failsArgument("37: index -1", hall, () -> hall.selected(1, -1));
+        check.failsElement("37: index -1", hall, () -> hall.selected(1, -1));
+        check.failsElement("37: the least int", hall, () -> hall.selected(8, Integer.MIN_VALUE));
+        check.failsArgument("37: 0 places, index -1", hall, () -> hall.selected(0, -1));
         check.failsArgument("37: 9 places, no such one", hall, () -> hall.selected(9, 9));
         check.failsElement("37: index 1", hall, () -> hall.selected(1, 1));
         check.failsElement("37: the last int", hall, () -> hall.selected(1, Integer.MAX_VALUE));

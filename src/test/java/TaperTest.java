@@ -43,7 +43,11 @@ public final class TaperTest {
         check.failsArgument("39: day 240, no such day", hall, () -> hall.taperAt(0, 240, 2, 2));
         check.failsElement("39: index 2 of 2", hall, () -> hall.taperAt(0, 9, 2, 2));
         check.failsElement("39: the last int", hall, () -> hall.taperAt(0, 9, 2, Integer.MAX_VALUE));
-        check.failsArgument("39: index -1", hall, () -> hall.taperAt(0, 9, 2, -1));
+        check.failsElement("39: index -1", hall, () -> hall.taperAt(0, 9, 2, -1));
+        check.failsElement("39: the least int", hall, () -> hall.taperAt(0, 9, 2, Integer.MIN_VALUE));
+        check.failsArgument("39: 0 days, index -1", hall, () -> hall.taperAt(0, 9, 0, -1));
+        check.failsArgument("39: a day ahead of now, index -1", hall, () -> hall.taperAt(0, 9, 6, -1));
+        check.failsIndex("39: athlete 1, index -1", hall, () -> hall.taperAt(1, 9, 2, -1));
     }
 
     private static String choices(Taperhall hall, int athlete, int day, int days) {
