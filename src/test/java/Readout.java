@@ -8,7 +8,7 @@ final class Readout {
     static String of(Taperhall hall) {
         StringBuilder text = new StringBuilder();
         text.append("day ").append(hall.today()).append(" sum ").append(hall.checksum());
-        text.append(" fault ").append(hall.fault());
+        text.append(" fault ").append(hall.fault()).append(" unfolds ").append(answer(() -> hall.unfolds()));
         int lanes = hall.setLanes(0);
         hall.setLanes(lanes);
         int error = hall.setError(0);
@@ -16,7 +16,11 @@ final class Readout {
         int standard = hall.setStandard(0);
         hall.setStandard(standard);
         text.append(" lanes ").append(lanes).append(" error ").append(error).append(" standard ").append(standard);
-        text.append(" sound ").append(hall.isSound());
+        text.append(" sound ").append(hall.isSound()).append(" fit ").append(answer(() -> hall.fitShare()));
+        for (int index = 0; index < 8; index++) {
+            int rank = index;
+            text.append(" chosen ").append(answer(() -> hall.selected(8, rank)));
+        }
         for (char letter = 'a'; letter <= 'j'; letter++) {
             for (char unit : "mrt".toCharArray()) {
                 char one = letter;
@@ -57,6 +61,11 @@ final class Readout {
         text.append(" rivals ").append(answer(() -> hall.rivals(athlete)));
         for (char what : "fgbe".toCharArray()) {
             text.append(' ').append(answer(() -> hall.fit(athlete, -1, what)));
+        }
+        // A camp gives on later days, which only a taper tells.
+        for (int ahead = 1; ahead <= 46; ahead += 3) {
+            int day = hall.today() + ahead;
+            text.append(' ').append(answer(() -> hall.taper(athlete, day, 1)));
         }
     }
 
