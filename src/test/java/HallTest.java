@@ -112,6 +112,14 @@ public final class HallTest {
         hall.race(0);
         hall.pass(1);
         check.holds("45: a race and a day later", hall.isSound());
-        check.holds("45: injured", InjuryTest.injured(20).isSound());
+        for (int step = 1; step <= 4; step++) {
+            Taperhall injured = InjuryTest.injured(20);
+            for (int passed = 1; passed < step; passed++) {
+                injured.comeBack(0, 20 * passed);
+                injured.pass(1);
+            }
+            check.same("45: the step", injured.body(0, 's'), step);
+            check.holds("45: injured on the step " + step, injured.isSound());
+        }
     }
 }
