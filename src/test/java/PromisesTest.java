@@ -35,14 +35,14 @@ public final class PromisesTest {
         test.tapers();
         test.hall();
         test.severalConditions();
-        check(test);
+        test.end();
     }
 
-    private static void check(PromisesTest test) {
-        test.check.same("promises", test.document.count("Promise"), 45);
-        test.document.allQuoted("Promise");
-        test.document.allQuoted("Terms, Exceptions", "Exceptions\\.");
-        test.check.end();
+    private void end() {
+        check.same("promises", document.count("Promise"), 45);
+        document.allQuoted("Promise");
+        document.allQuoted("Terms, Exceptions", "Exceptions\\.");
+        check.end();
     }
 
     // What the tests are told in.
